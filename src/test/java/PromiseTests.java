@@ -198,6 +198,7 @@ public final class PromiseTests {
         for (int r = 0; r < 10; r++) {
             due("8: behind anchors it begins with 1, at " + r, y.ways(3, r), anew[r]);
         }
+        due("9: two anchors", y.ofPlan(3, 1), 1 << 3 | 1 << 6);
     }
 
     private static void promise9OfPlan() {
@@ -268,6 +269,7 @@ public final class PromiseTests {
         due("10: the longest row", y.decoded(1, 0, 9, 0, -1), 9);
         due("10: its last call", y.decoded(1, 0, 9, 0, 8), 8);
         due("10: its first call", y.decoded(1, 0, 9, 0, 0), 0);
+        due("9: all ten are met", y.ofPlan(1, 0), 1023);
     }
 
     private static void promise11Call() {
@@ -408,6 +410,11 @@ public final class PromiseTests {
         callAll(x, 9);
         x.snap();
         x.plan();
+        CallNumbers y = sample();
+        y.plan();
+        callAll(y, 1, 2, 5);
+        y.snap();
+        dueSnap(y, 0, 1, 3, 1, 4, 3);
         for (int again = 0; again < 2; again++) {
             dueSnap(x, 0, 0, 0, 1, 0, 0);
             dueSnap(x, 1, 0, 3, 6, 0, 5);
